@@ -1082,9 +1082,14 @@ public final class GateChoir {
             if (pair < 0 || pair >= ones.length) {
                 return;
             }
-            int both = lane == otherLane ? 0 : song.harmonyWith(otherSong);
-            ones[pair] = both + (lane != otherLane && isUnbroken(song) ? 1 : 0);
-            others[pair] = both + (lane != otherLane && isUnbroken(otherSong) ? 1 : 0);
+            if (lane == otherLane) {
+                ones[pair] = 0;
+                others[pair] = 0;
+                return;
+            }
+            int both = song.harmonyWith(otherSong);
+            ones[pair] = both + (isUnbroken(song) ? 1 : 0);
+            others[pair] = both + (isUnbroken(otherSong) ? 1 : 0);
         }
 
         void settle(int lanes) {

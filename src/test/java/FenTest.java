@@ -28,9 +28,9 @@ final class FenTest {
 
     private static void writeAndWipe() {
         GateChoir x = new GateChoir();
-        for (int i = 1; i <= 59; i++) {
-            int length = i;
-            Check.due("write the letter " + i, length, () -> x.write(length));
+        for (int i = 0; i < 59; i++) {
+            int letter = i;
+            Check.due("write(" + i + ")", letter + 1, () -> x.write(letter));
         }
         Check.due("write(256)", GateChoir.OUTSIDE, () -> x.write(256));
         Check.due("write(-1)", GateChoir.OUTSIDE, () -> x.write(-1));
@@ -105,10 +105,13 @@ final class FenTest {
         // What comes behind the first fault is not looked at.
         faultOf("C0XGa0", 2);
         faultOf("C0Ga9Gm9", 4);
-        // Its length is set aside: 60 letters that end within a part can still become one.
-        String full = "C0Ga0Ga0Ga0Ga0Ga0L000L000L000B10B10B10B10B10V----V----";
-        faultOf(full, none);
-        faultOf("C0V----V----" + "Ga0Ga0Ga0Ga0Ga0" + "B10B10B10B10B10" + "L000L000L000" + "G", 54);
+        // All that a fen can have is 54 letters: whatever part comes behind it is one too many.
+        String all = "C0V----V----Ga0Ga0Ga0Ga0Ga0B10B10B10B10B10L000L000L000";
+        faultOf(all, none);
+        faultOf(all + "G", 54);
+        faultOf(all + "L", 54);
+        faultOf(all + "Babcde", 54);
+        faultOf(all + "V", 54);
     }
 
     private static void fensMade() {
@@ -120,10 +123,11 @@ final class FenTest {
         Check.due("the frost of C0", 0, () -> x.count(5));
         x.drive(0, 0);
         x.open(1);
-        x.oil(2);
+        x.oil(0);
         x.hang(0, true);
         x.hear(1, 2, 3);
         x.seed(77);
+        x.keep(0);
         x.keep(1);
         Check.write(x, "C1Ga0Gb1L010");
         Check.due("fen anew", 2100, () -> x.fen());
@@ -133,11 +137,13 @@ final class FenTest {
         Check.due("acts", 0, () -> x.count(8));
         Check.due("undo", GateChoir.STATE, () -> x.undo());
         Check.due("heard stays", 1, () -> x.count(9));
-        Check.due("what was kept is gone", GateChoir.STATE, () -> x.again(1));
+        Check.due("what was kept is gone", GateChoir.STATE, () -> x.again(0));
+        Check.due("in both slots", GateChoir.STATE, () -> x.again(1));
         Check.due("the seed stays", 77, () -> x.seed(0));
         Check.due("note", 0, () -> x.gate(0, 0));
         Check.due("passed", 0, () -> x.gate(0, 2));
         Check.due("open", 0, () -> x.gate(1, 3));
+        Check.due("oiled", 0, () -> x.gate(0, 4));
         Check.due("no gate 2", GateChoir.UNKNOWN, () -> x.gate(2, 0));
         Check.due("no beast", GateChoir.UNKNOWN, () -> x.beast(0, 0));
         // A text with a fault leaves the fen as it is, whatever of it could be read.

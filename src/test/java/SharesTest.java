@@ -60,6 +60,23 @@ final class SharesTest {
         w.oil(0);
         Check.due("all but one", 3, () -> w.rests(0, 1, 0));
         Check.due("the first of them", 1, () -> w.rests(0, 1, 1));
+        restingApart();
+    }
+
+    private static void restingApart() {
+        // Stiff gates: the heavy one has 1 if apart, the light one 0 wherever.
+        GateChoir x = Check.choirOf("C0Ga3Ga3L000L111B50B40");
+        Check.due("one is apart", 2, () -> x.rests(0, 1, 0));
+        Check.due("the other is apart", 2, () -> x.rests(1, 0, 0));
+        // By lane 0, unbroken, as much is to be had as by lane 1 with one place more in harmony.
+        GateChoir y = Check.choirOf("C0Ga0Gb0Ga0Ga0L011L003L222B10B10");
+        y.oil(3);
+        Check.due("no rest is 1 more", 4, () -> y.rests(0, 1, 0));
+        Check.due("the first of those", 2, () -> y.rests(0, 1, 1));
+        // Lane 0 is silent for both: nobody stays there.
+        GateChoir z = Check.choirOf("C0Ga3Ga0Gb0L000L111L222B10B10");
+        Check.due("in lanes 1 and 2", 2, () -> z.rests(0, 1, 0));
+        Check.due("10 times the one and the other", 12, () -> z.rests(0, 1, 1));
     }
 
     private static void dripsOf(GateChoir x, int m, int tenths, int above, int below) {
@@ -126,15 +143,23 @@ final class SharesTest {
         chosenSeeds();
     }
 
-    /** A seed whose next step is the told chance, found by trying. */
-    private static long seedFor(int chance) {
-        for (long seed = 1; seed < 100000; seed++) {
-            long next = seed * 6364136223846793005L + 1442695040888963407L;
-            if ((next >>> 33) % 21 == chance) {
+    /** A seed whose next steps are the told chances, found by trying. */
+    private static long seedFor(int... chances) {
+        for (long seed = 1; seed < 10000000; seed++) {
+            long next = seed;
+            int like = 0;
+            while (like < chances.length) {
+                next = next * 6364136223846793005L + 1442695040888963407L;
+                if ((next >>> 33) % 21 != chances[like]) {
+                    break;
+                }
+                like++;
+            }
+            if (like == chances.length) {
                 return seed;
             }
         }
-        return 0;
+        throw new IllegalStateException("no such seed");
     }
 
     private static void chosenSeeds() {
@@ -150,6 +175,12 @@ final class SharesTest {
         y.drive(0, 0);
         y.seed(seedFor(1));
         Check.due("home already", 0, () -> y.winters(1));
+        y.seed(seedFor(15, 1));
+        Check.due("turned out, driven", 5, () -> y.winters(2));
+        y.seed(seedFor(4, 16, 5, 5));
+        Check.due("driven, turned out, driven, home then", 16, () -> y.winters(4));
+        y.seed(seedFor(14, 19, 12));
+        Check.due("the last beast", 6, () -> y.winters(3));
         GateChoir z = Check.choirOf("C0Ga0L000B10");
         z.seed(seedFor(1));
         Check.due("no such lane", 0, () -> z.winters(1));

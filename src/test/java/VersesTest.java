@@ -133,7 +133,7 @@ final class VersesTest {
         Check.due("verse -1", GateChoir.UNKNOWN, () -> x.has(-1, 0));
         Check.due("lane -1", GateChoir.UNKNOWN, () -> x.has(0, -1));
         // In any order, also more often than they are sung; a rest is not wanted.
-        GateChoir y = Check.choirOf("C0Ga0Gb0Gc0L012B10B11B20Vc-acV----");
+        GateChoir y = Check.choirOf("C0Ga0Gb0Gc0L012B10B11B20Vc-aaV----");
         Check.due("a and c", 3, () -> y.has(0, 0));
         Check.due("nothing but rests", 7, () -> y.has(1, 0));
         y.oil(2);
@@ -180,6 +180,7 @@ final class VersesTest {
         Check.due("three fit", none, () -> x.judge(2, 2181));
         Check.due("the verse is not sung", 1, () -> x.judge(2, 81));
         Check.due("opened and opened again", none, () -> x.judge(4, 54543281));
+        Check.due("oiled and oiled again", none, () -> x.judge(4, 64643281));
         Check.due("opened: silent", 2, () -> x.judge(3, 543281));
         Check.due("oiled: silent", 2, () -> x.judge(3, 643281));
         Check.due("n = 0", GateChoir.OUTSIDE, () -> x.judge(0, 0));
