@@ -5,8 +5,6 @@ import java.nio.file.Path;
 
 /** ../shared/DOC.md by its sections, so that a test can only name a sentence that stands there. */
 final class Document {
-    static final int PROMISES = 35;
-
     // .ci/run runs the tests from the project's folder.
     private static final String TEXT = plain(read(Path.of("../shared/DOC.md")));
 
@@ -35,7 +33,11 @@ final class Document {
         return TEXT.substring(start, end < 0 ? TEXT.length() : end);
     }
 
-    static String terms() {
+    private static String whatItIs() {
+        return from("What it is");
+    }
+
+    private static String terms() {
         return from("Terms");
     }
 
@@ -53,6 +55,6 @@ final class Document {
 
     static boolean says(int promise, String sentence) {
         String wanted = plain(sentence);
-        return promise(promise).contains(wanted) || terms().contains(wanted);
+        return promise(promise).contains(wanted) || terms().contains(wanted) || whatItIs().contains(wanted);
     }
 }

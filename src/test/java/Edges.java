@@ -48,6 +48,10 @@ abstract class Edges {
         Check.end(name);
     }
 
+    static void end(String name) {
+        Check.end(name);
+    }
+
     private static void refusalsOf(int promise) {
         String[] words = {"UNKNOWN", "OUTSIDE", "STATE", "FULL", "NONE"};
         int[] answers = {UNKNOWN, OUTSIDE, STATE, FULL, NONE};

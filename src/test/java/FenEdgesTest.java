@@ -5,6 +5,7 @@ final class FenEdgesTest extends Edges {
 
     public static void main(String[] args) {
         newObject();
+        lastCall();
         write();
         wipe();
         faultOfTheStart();
@@ -50,6 +51,22 @@ final class FenEdgesTest extends Edges {
         Run one = fen(WIDE).does("drive(0, 0)", "keep(0)", "hear(0, 0, 1)", "seed(5)");
         choir().dueRow("count(#)", 0, 0, 0, 0, 0, 0, 0, 0, 0, 0).due(STATE, "again(0)").due(0, "seed(0)");
         one.dueRow("count(#)", 54, 5, 3, 5, 2, 0, 3, 1, 1, 1);
+    }
+
+    private static void lastCall() {
+        says(1, "An object is used for at most 512 calls after it has been made");
+        // 25 calls make the fen; the last of 512 is answered as ever.
+        for (int last = 0; last < 3; last++) {
+            Run run = fen(SMALL);
+            for (int call = 26; call <= 511; call++) {
+                run.does("frost()");
+            }
+            switch (last) {
+                case 0: run.due(1, "frost()"); break;
+                case 1: run.due(13, "undo()"); break;
+                default: run.due(4, "drive(0, 0)"); break;
+            }
+        }
     }
 
     // ---- promises 2 and 3

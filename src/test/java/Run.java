@@ -131,6 +131,16 @@ final class Run {
         return this;
     }
 
+    /** Calls that are not refused, and change nothing all the same; their answers are looked at elsewhere. */
+    Run still(String... told) {
+        for (String each : told) {
+            Call call = new Call(each);
+            Check.due(about + ": " + each + " is taken", 1, () -> isRefusal(once(call)) ? 0 : 1);
+            changesNothing(call);
+        }
+        return this;
+    }
+
     /** For # of 0, 1, 2 and on, a call has these answers. */
     Run dueRow(String pattern, long... wants) {
         for (int i = 0; i < wants.length; i++) {

@@ -144,6 +144,10 @@ final class VersesEdgesTest extends Edges {
         says(22, "all TONES of a VERSE (RESTS set aside) come");
         fen("C0Ga0Gb0L011B10B11B20B30B90VabbaV----").due(3, "has(0, 0)").due(31, "has(1, 0)").does("oil(1)").due(2, "has(0, 0)")
                 .does("oil(0)").due(0, "has(0, 0)").due(31, "has(1, 0)");
+        // Each of the four places is wanted.
+        fen("C0Ga0L000B10VlaaaValaa").dueRow("has(#, 0)", 0, 0);
+        fen("C0Ga0L000B10VaalaVaaal").dueRow("has(#, 0)", 0, 0);
+        fen("C0Ga0L000B10VaaaaV-a--").dueRow("has(#, 0)", 1, 1);
         fen("C0Ga0L000Vaaaa").due(0, "has(0, 0)");
         fen("C0Ga0L000V----").due(0, "has(0, 0)");
         fen("C0Ga0L000B10B10B10B10B90Veee-V-a-l").due(16, "has(0, 0)").due(0, "has(1, 0)").does("hang(0, false)").due(0, "has(1, 0)");
