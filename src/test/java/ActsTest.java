@@ -118,25 +118,40 @@ final class ActsTest {
         Check.dueAndStill("nothing to undo", GateChoir.STATE, x, () -> x.undo());
         x.drive(1, 1);
         x.drive(2, 1);
-        String[] states = new String[6];
-        Runnable[] acts = {
-            () -> x.drive(4, 0), () -> x.open(2), () -> x.oil(3), () -> x.hang(0, false), () -> x.turnOut(1), () -> x.frost()};
-        for (int i = 0; i < acts.length; i++) {
-            states[i] = Check.stateOf(x);
-            acts[i].run();
-        }
-        for (int i = acts.length - 1; i >= 0; i--) {
-            int left = i + 2;
-            Check.due("undo act " + i, left, () -> x.undo());
-            Check.same("as ahead of act " + i, Check.stateOf(x), states[i]);
-        }
+        Check.due("a third drive", 3, () -> x.drive(4, 0));
+        Check.due("undo", 2, () -> x.undo());
         // What had gone from the last twelve is there again.
         Check.same("sung", Check.sungOf(x), "5 4 5 4 5 2 3 1 1 1 1 11");
         Check.due("undo", 1, () -> x.undo());
         Check.same("sung again", Check.sungOf(x), "4 5 4 5 4 5 4 5 2 3");
         Check.due("undo", 0, () -> x.undo());
         Check.due("undo", GateChoir.STATE, () -> x.undo());
+        for (int act = 0; act < 6; act++) {
+            undoneAs(act);
+        }
         fourteen();
+    }
+
+    /** One act of each kind behind those ahead of it, on an object of its own. */
+    private static void undoneAs(int last) {
+        GateChoir x = Check.choirOf(Check.WIDE);
+        x.drive(1, 1);
+        x.drive(2, 1);
+        Runnable[] acts = {
+            () -> x.drive(4, 0), () -> x.open(2), () -> x.oil(3), () -> x.hang(0, false), () -> x.turnOut(1), () -> x.frost()};
+        for (int i = 0; i < last; i++) {
+            acts[i].run();
+        }
+        String before = Check.stateOf(x);
+        acts[last].run();
+        Check.isTrue("act " + last + " shows", !before.equals(Check.stateOf(x)));
+        Check.due("undo act " + last, last + 2, () -> x.undo());
+        Check.same("as ahead of act " + last, Check.stateOf(x), before);
+        for (int i = last + 1; i >= 0; i--) {
+            int left = i;
+            Check.due("undo those ahead of it", left, () -> x.undo());
+        }
+        Check.due("nobody is home", 0, () -> x.count(7));
     }
 
     private static void fourteen() {
